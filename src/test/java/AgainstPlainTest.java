@@ -10,6 +10,11 @@ public final class AgainstPlainTest {
     private FeatureSolve x;
     private PlainSolve plain;
     private int features;
+    private int seldom;
+    /** How far the limits stand from what the attributes make together. */
+    private int room;
+    /** Of ten calls of choose() how many take one back. */
+    private int back;
 
     private AgainstPlainTest(Check check, int run, int most) {
         this.check = check;
@@ -19,8 +24,8 @@ public final class AgainstPlainTest {
 
     public static void main(String[] args) {
         Check check = new Check("against the plain one");
-        for (int run = 0; run < 400 && check.wrong() == 0; run++) {
-            int most = run % 40 == 0 ? 14 : 1 + run % 9;
+        for (int run = 0; run < 600 && check.wrong() == 0; run++) {
+            int most = run % 20 == 0 ? 14 : 1 + run % 10;
             new AgainstPlainTest(check, run, most).run();
         }
         check.end();
@@ -31,16 +36,25 @@ public final class AgainstPlainTest {
         return (int) ((seed >>> 33) % bound);
     }
 
+    /**
+     * Most runs say what they have to say early or seldom, and take choices back often: else no
+     * variant is left before much was asked.
+     */
     private void run() {
         x = new FeatureSolve();
         plain = new PlainSolve();
         features = 0;
         int rare = 1 + below(6);
+        seldom = 4 << below(7);
+        room = below(3) * 20;
+        back = 1 + below(6);
         for (int call = 0; call < 512 && check.wrong() == 0; call++) {
             if (features < most && below(rare + 1) == 0) {
                 feature();
-            } else if (below(4) == 0) {
+            } else if (below(seldom) == 0) {
                 tell();
+            } else if (below(3) == 0) {
+                choose();
             } else {
                 ask();
             }
@@ -71,9 +85,9 @@ public final class AgainstPlainTest {
     private void tell() {
         int a = some(true);
         int b = some(true);
-        switch (below(8)) {
+        switch (below(5)) {
             case 0:
-                int least = below(3);
+                int least = below(4) / 2;
                 int most = below(12) == 0 ? index(17) : least + below(3);
                 check.due("group", x.group(Math.abs(a), least, most), plain.group(Math.abs(a), least, most));
                 break;
@@ -83,19 +97,27 @@ public final class AgainstPlainTest {
                 break;
             case 2:
                 int what = below(15) == 0 ? index(6) - 1 : below(4);
-                int v = below(15) == 0 ? ODD[below(ODD.length)] : below(21) - 8;
+                int v = below(15) == 0 ? ODD[below(ODD.length)] : below(21) - 10;
                 check.due("attribute", x.attribute(Math.abs(a), what, v), plain.attribute(Math.abs(a), what, v));
                 break;
             case 3:
                 int which = below(4);
-                int limit = below(30) - 5 + (below(3) == 0 ? 10 : 0);
+                int limit = below(30) - 5 + room;
                 check.due("limit", x.attribute(0, which, limit), plain.attribute(0, which, limit));
                 break;
             default:
-                boolean on = below(3) != 0;
-                check.due("choose(" + a + ", " + on + ")", x.choose(a, on), plain.choose(a, on));
+                choose();
                 break;
         }
+    }
+
+    private void choose() {
+        int feature = some(false);
+        if (below(10) < back) {
+            feature = -feature;
+        }
+        boolean on = below(3) != 0;
+        check.due("choose(" + feature + ", " + on + ")", x.choose(feature, on), plain.choose(feature, on));
     }
 
     private void ask() {

@@ -9,6 +9,7 @@ public final class PromisesTest {
         feature(check);
         featureKinds(check);
         group(check);
+        groupOfTheLast(check);
         groupRefusals(check);
         formulaOps(check);
         formulaTrivial(check);
@@ -133,6 +134,15 @@ public final class PromisesTest {
         c.due("3: a group of none asks nothing", x.count(256), 2);
         c.due("3: group(1, 1, 1)", x.group(1, 1, 1), 0);
         c.due("3: a group of none can't have one", x.count(256), 0);
+    }
+
+    /** The last feature has no room for any below it. */
+    private static void groupOfTheLast(Check c) {
+        FeatureSolve x = rootWith(13);
+        c.due("3: group(14, 1, 1)", x.group(14, 1, 1), 0);
+        c.due("3: the last one can't have one", x.count(16384), 4096);
+        c.due("3: group(14, 0, 1)", x.group(14, 0, 1), 0);
+        c.due("3: the last one may have none", x.count(16384), 8192);
     }
 
     private static void groupRefusals(Check c) {
@@ -263,6 +273,14 @@ public final class PromisesTest {
         c.due("5: the least sum", x.count(4), 1);
         c.due("5: attribute(0, 0, -10000)", x.attribute(0, 0, -10000), 1);
         c.due("5: the least limit", x.count(4), 0);
+        for (int what = 0; what < 4; what++) {
+            for (int f = 1; f <= 14; f++) {
+                FeatureSolve one = rootWith(13);
+                one.attribute(f, what, 1);
+                one.attribute(0, what, 0);
+                c.due("5: attribute(" + f + ", " + what + ", 1) alone", one.count(16384), f == 1 ? 0 : 4096);
+            }
+        }
         FeatureSolve y = rootWith(13);
         for (int f = 1; f <= 14; f++) {
             y.attribute(f, 2, 1000);
@@ -394,6 +412,12 @@ public final class PromisesTest {
         x.formula(1, 1, 1);
         c.due("9: solve()", x.solve(), 0);
         c.due("9: none even without choices", x.why(0), 0);
+        FeatureSolve y = rootWith(2);
+        y.choose(2, false);
+        y.choose(1, false);
+        y.solve();
+        c.due("9: one that must not be can go", y.why(0), -1);
+        c.due("9: no more", y.why(1), 0);
     }
 
     /** Of 2 and 3, of 2 and 4, and of 5 and 6 not both: which is left hangs on the order. */
@@ -472,6 +496,9 @@ public final class PromisesTest {
         c.due("11: forces(7, 0)", x.forces(7, 0), -1);
         c.due("11: forces(-3, 0)", x.forces(-3, 0), -1);
         c.due("11: forces(LARGEST, -1)", x.forces(LARGEST, -1), -1);
+        FeatureSolve y = rootWith(2);
+        y.formula(2, 2, 3);
+        c.due("11: neither of two is in all", y.forces(1, 0), 0);
         x.choose(6, false);
         c.due("11: a choice that it must not be", x.forces(3, 4), -6);
         c.due("11: this feature must not be", x.forces(6, 0), 0);
