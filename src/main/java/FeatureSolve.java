@@ -6,6 +6,7 @@ public final class FeatureSolve {
     private static final int UNKNOWN = -1;
     private static final int OUTSIDE = -2;
     private static final int NO_ROOM = -4;
+    private static final int TOO_FEW_STEPS = -1;
 
     private static final int ROOT = 1;
     private static final int MOST_FEATURES = 14;
@@ -27,19 +28,19 @@ public final class FeatureSolve {
     /** Stands for a variant where there is none; the variant without any feature is 0. */
     private static final int NO_VARIANT = -1;
 
+    private final Variants variants;
     private final Tree tree;
     private final Formulas formulas;
     private final Sums sums;
-    private final Variants variants;
     private final Choices choices;
     private final Found found;
     private final Reason reason;
 
     public FeatureSolve() {
-        tree = new Tree();
-        formulas = new Formulas();
-        sums = new Sums();
-        variants = new Variants(tree, formulas, sums);
+        variants = new Variants();
+        tree = variants.tree;
+        formulas = variants.formulas;
+        sums = variants.sums;
         choices = new Choices();
         found = new Found();
         reason = new Reason();
@@ -142,7 +143,7 @@ public final class FeatureSolve {
             return OUTSIDE;
         }
         if (1L << tree.size > steps) {
-            return UNKNOWN;
+            return TOO_FEW_STEPS;
         }
         return variants.number(choices.must, choices.mustNot);
     }
@@ -427,19 +428,14 @@ public final class FeatureSolve {
         /** The root is in each variant, the others are free at most. */
         private static final int MOST_VARIANTS = 1 << (MOST_FEATURES - 1);
 
-        private final Tree tree;
-        private final Formulas formulas;
-        private final Sums sums;
+        final Tree tree = new Tree();
+        final Formulas formulas = new Formulas();
+        final Sums sums = new Sums();
         private final int[] row = new int[MOST_VARIANTS];
         private int size;
         private boolean upToDate;
 
-        Variants(Tree tree, Formulas formulas, Sums sums) {
-            this.tree = tree;
-            this.formulas = formulas;
-            this.sums = sums;
-        }
-
+        /** To be called with each change of tree, formulas or sums. */
         void outdate() {
             upToDate = false;
         }
