@@ -1,4 +1,7 @@
-/** Long mixed runs of 512 calls, each answer held against PlainSolve's; the runs are always the same. */
+/**
+ * Long mixed runs, as many calls as an object is used for, each answer held against PlainSolve's;
+ * the runs are always the same.
+ */
 public final class AgainstPlainTest {
     private static final int[] ODD = {
         0, -1, 15, 16, -15, 31, 32, 33, -33, 64, 201, 1001, 10001, Integer.MAX_VALUE, Integer.MIN_VALUE,
@@ -10,6 +13,7 @@ public final class AgainstPlainTest {
     private FeatureSolve x;
     private PlainSolve plain;
     private int features;
+    private int calls;
     private int seldom;
     /** How far the limits stand from what the attributes make together. */
     private int room;
@@ -24,7 +28,7 @@ public final class AgainstPlainTest {
 
     public static void main(String[] args) {
         Check check = new Check("against the plain one");
-        for (int run = 0; run < 600 && check.wrong() == 0; run++) {
+        for (int run = 0; run < 1000 && check.wrong() == 0; run++) {
             int most = run % 20 == 0 ? 14 : 1 + run % 10;
             new AgainstPlainTest(check, run, most).run();
         }
@@ -48,7 +52,7 @@ public final class AgainstPlainTest {
         seldom = 4 << below(7);
         room = below(3) * 20;
         back = 1 + below(6);
-        for (int call = 0; call < 512 && check.wrong() == 0; call++) {
+        for (calls = 0; calls < 512 && check.wrong() == 0; calls++) {
             if (features < most && below(rare + 1) == 0) {
                 feature();
             } else if (below(seldom) == 0) {
@@ -129,10 +133,11 @@ public final class AgainstPlainTest {
                 check.due("solve()", x.solve(), plain.solve());
                 break;
             case 2:
-                for (int g = 0; g <= 15; g++) {
-                    check.due("chosen(" + g + ")", x.chosen(g), plain.chosen(g));
-                }
                 check.due("chosen(" + f + ")", x.chosen(f), plain.chosen(f));
+                for (int g = 0; g <= features && calls < 511; g++) {
+                    check.due("chosen(" + g + ")", x.chosen(g), plain.chosen(g));
+                    calls++;
+                }
                 break;
             case 3:
                 check.due("why(" + i + ")", x.why(i), plain.why(i));

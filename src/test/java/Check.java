@@ -1,3 +1,5 @@
+import java.util.function.IntUnaryOperator;
+
 /** Counts the answers that are not the ones that are due, and tells each. */
 final class Check {
     private final String about;
@@ -9,13 +11,30 @@ final class Check {
 
     void due(String call, long got, long want) {
         if (got != want) {
-            wrong++;
-            System.out.println(about + ": " + call + " answered " + got + ", due is " + want);
+            tell(call, String.valueOf(got), String.valueOf(want));
         }
     }
 
     void due(String call, boolean got, boolean want) {
         due(call, got ? 1L : 0L, want ? 1L : 0L);
+    }
+
+    void due(String call, String got, String want) {
+        if (!got.equals(want)) {
+            tell(call, got, want);
+        }
+    }
+
+    /** One call for each of some inputs, all of which have the same answer. */
+    void dueOfAll(String call, int[] inputs, IntUnaryOperator made, long want) {
+        for (int input : inputs) {
+            due(call + " of " + input, made.applyAsInt(input), want);
+        }
+    }
+
+    private void tell(String call, String got, String want) {
+        wrong++;
+        System.out.println(about + ": " + call + " answered " + got + ", due is " + want);
     }
 
     void throwsAtLevel(FeatureSolve x, int i) {
